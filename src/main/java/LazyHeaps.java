@@ -27,6 +27,9 @@ public final class LazyHeaps {
 
     private static final int ABOUT_FIELDS = 10;
 
+    /** A rank of this less a place tells that THE ROW is no row from that place on. */
+    private static final int NO_ROW = -10;
+
     private static final int NOT_NULL = 0;
     private static final int NO_CYCLE = 1;
     private static final int NOT_SHARED = 2;
@@ -72,9 +75,6 @@ public final class LazyHeaps {
         if (above != NONE && !shape.isKind(above)) {
             return UNKNOWN;
         }
-        if (shape.kindCount >= MOST_KINDS) {
-            return ROOM;
-        }
         forgetRows();
         return shape.addKind(above);
     }
@@ -89,9 +89,6 @@ public final class LazyHeaps {
         if (shape.isSuper(kind)) {
             return STATE;
         }
-        if (shape.fieldsOf(kind) >= MOST_FIELDS) {
-            return ROOM;
-        }
         forgetRows();
         return shape.addField(kind, sort, of);
     }
@@ -99,9 +96,6 @@ public final class LazyHeaps {
     public int input(int kind) {
         if (!shape.isKind(kind)) {
             return UNKNOWN;
-        }
-        if (shape.inputCount >= MOST_INPUTS) {
-            return ROOM;
         }
         forgetRows();
         return shape.addInput(kind);
@@ -127,9 +121,6 @@ public final class LazyHeaps {
             if (!sortsFit(sort, kind, f, g)) {
                 return OUTSIDE;
             }
-        }
-        if (rules.count >= MOST_RULES) {
-            return ROOM;
         }
         return rules.add(new Rule(sort, kind, f, g));
     }
@@ -216,12 +207,13 @@ public final class LazyHeaps {
         }
         int wrong = heap.loadUnsure(theRow, theLength);
         if (wrong != NONE) {
-            return -10 - wrong;
+            return NO_ROW - wrong;
         }
         return catalogue.keptNumber(catalogue.rows.find(theRow, theLength));
     }
 
     public int step(int op, int v, int f, int n, int m) {
+        // f is a FIELD or a VARIABLE, n a NUMBER or a VARIABLE: all of these are 0 .. 3
         if (op < READ || op > SAME || !isVariable(v) || f < 0 || f >= MOST_FIELDS) {
             return OUTSIDE;
         }
@@ -230,9 +222,6 @@ public final class LazyHeaps {
         }
         if (op != READ && (m < 0 || m > MOST_STEPS)) {
             return OUTSIDE;
-        }
-        if (program.count >= MOST_STEPS) {
-            return ROOM;
         }
         parts.forget();
         return program.add(new Step(op, v, f, n, m));
@@ -401,6 +390,7 @@ public final class LazyHeaps {
             return typeOf(k, f) >= NUMBER_TYPE;
         }
 
+        /** The number of the new kind, or ROOM; so with fields and inputs. */
         int addKind(int above) {
             if (kindCount >= MOST_KINDS) {
                 return ROOM;
@@ -490,6 +480,7 @@ public final class LazyHeaps {
             return told[MOST_INPUTS + o * MOST_FIELDS + f];
         }
 
+        /** Must come first when the shape has changed. */
         void begin() {
             length = 0;
             met = 0;
@@ -516,9 +507,11 @@ public final class LazyHeaps {
             return false;
         }
 
+        /** Rows that stand together begin alike, so what was read of the row before is kept. */
         void load(Rows rows, int row) {
-            begin();
-            for (int place = 0; place < MOST_SLOTS && slot != NONE; place++) {
+            int alike = countAlike(rows, row);
+            backTo(alike);
+            for (int place = alike; place < MOST_SLOTS && slot != NONE; place++) {
                 take(rows.choiceAt(row, place));
             }
         }
@@ -535,6 +528,15 @@ public final class LazyHeaps {
             return slot == NONE ? NONE : size;
         }
 
+        private int countAlike(Rows rows, int row) {
+            for (int place = 0; place < length; place++) {
+                if (choices[place] != rows.choiceAt(row, place)) {
+                    return place;
+                }
+            }
+            return length;
+        }
+
         private void backTo(int place) {
             if (place >= 0 && place < length) {
                 slot = slots[place];
@@ -545,7 +547,15 @@ public final class LazyHeaps {
         }
 
         private int choiceAbove(int c) {
-            for (int next = c + 1; next < NEW + MOST_KINDS; next++) {
+            if (!Shape.isRefType(type)) {
+                return allows(c + 1) ? c + 1 : NONE;
+            }
+            for (int next = c + 1; next <= met; next++) {
+                if (allows(next)) {
+                    return next;
+                }
+            }
+            for (int next = Math.max(c + 1, NEW); next < NEW + shape.kindCount; next++) {
                 if (allows(next)) {
                     return next;
                 }
@@ -561,7 +571,7 @@ public final class LazyHeaps {
                 return c <= type - Shape.NUMBER_TYPE;
             }
             if (c <= met) {
-                return c == 0 || isUnder(c - 1, type);
+                return c == 0 || shape.isUnder(kindOf(c - 1), type);
             }
             return c >= NEW && met < shape.bound && shape.isUnder(c - NEW, type);
         }
@@ -613,7 +623,7 @@ public final class LazyHeaps {
      */
     private static final class Rows {
         private static final int HALF = MOST_SLOTS / 2;
-        private static final int CODES = 16;
+        private static final int CODE_MASK = 15;
         private static final int NEW_CODE = MOST_BOUND + 1;
 
         private long[] words = new long[2 * LEAST_SIZE];
@@ -636,24 +646,29 @@ public final class LazyHeaps {
             count++;
         }
 
-        int codeAt(int row, int place) {
+        /** 0 behind the end of the row. */
+        int choiceAt(int row, int place) {
             if (row < 0 || row >= count || place < 0 || place >= MOST_SLOTS) {
                 return 0;
             }
             long word = words[2 * row + place / HALF];
-            return (int) (word >> 4 * (HALF - 1 - place % HALF)) & (CODES - 1);
-        }
-
-        int choiceAt(int row, int place) {
-            int code = codeAt(row, place);
+            int code = (int) (word >> 4 * (HALF - 1 - place % HALF)) & CODE_MASK;
             return code < NEW_CODE ? code : code - NEW_CODE + NEW;
         }
 
-        boolean areSame(int one, int other) {
-            if (one < 0 || one >= count || other < 0 || other >= count) {
-                return false;
+        void dropLast() {
+            if (count > 0) {
+                count--;
             }
-            return words[2 * one] == words[2 * other] && words[2 * one + 1] == words[2 * other + 1];
+        }
+
+        /** Below 0, 0 or above 0, as the one row stands before the other, is it, or behind it. */
+        int compare(int one, int other) {
+            if (one < 0 || one >= count || other < 0 || other >= count) {
+                return 0;
+            }
+            int side = Long.compare(words[2 * one], words[2 * other]);
+            return side != 0 ? side : Long.compare(words[2 * one + 1], words[2 * other + 1]);
         }
 
         /** The number of a row, where the rows stand in order, or NONE. */
@@ -686,7 +701,7 @@ public final class LazyHeaps {
             for (int place = from; place < from + HALF; place++) {
                 int c = place < until ? choices[place] : 0;
                 int code = c < NEW ? c : c - NEW + NEW_CODE;
-                word = word << 4 | code & (CODES - 1);
+                word = word << 4 | code & CODE_MASK;
             }
             return word;
         }
@@ -1072,18 +1087,19 @@ public final class LazyHeaps {
     }
 
     /**
-     * The ends: rows sorted by their looks, where rows with one look stand together. What is told
-     * of an end is found by a play with its first row, as all of its rows play alike.
+     * The ends. What is told of an end is found by a play with the first of its rows, as all of
+     * them play alike.
      */
     private static final class Ends {
         private final Catalogue catalogue;
         private final Play play;
+        /** Those of all rows, but a look is not told again for the row behind. */
         private final Rows looks = new Rows();
-        private final int[] buckets = new int[Rows.CODES + 1];
         private int[] order = new int[LEAST_SIZE];
         private int[] spare = new int[LEAST_SIZE];
-        private int[] starts = new int[LEAST_SIZE];
-        private int[] partOfRow = new int[LEAST_SIZE];
+        private int[] lookOfRow = new int[LEAST_SIZE];
+        private int[] partOfLook = new int[LEAST_SIZE];
+        private int[] firstRows = new int[LEAST_SIZE];
         private boolean gathered = false;
         private int count = 0;
 
@@ -1103,17 +1119,18 @@ public final class LazyHeaps {
             }
             if (!gathered) {
                 makeRoom(catalogue.rows.count);
-                int longest = 0;
                 looks.drop();
-                for (int row = 0; row < catalogue.rows.count && row < order.length; row++) {
-                    order[row] = row;
+                for (int row = 0; row < catalogue.rows.count && row < lookOfRow.length; row++) {
                     catalogue.heap.load(catalogue.rows, row);
                     play.run(program);
                     looks.add(play.choices, play.length);
-                    longest = Math.max(longest, play.length);
+                    if (row > 0 && looks.compare(looks.count - 2, looks.count - 1) == 0) {
+                        looks.dropLast();
+                    }
+                    lookOfRow[row] = looks.count - 1;
                 }
-                sort(longest);
-                part();
+                sort();
+                nameParts();
                 gathered = true;
             }
             return true;
@@ -1123,37 +1140,37 @@ public final class LazyHeaps {
             if (k < 0 || k >= count) {
                 return false;
             }
-            catalogue.heap.load(catalogue.rows, rowAt(starts[k]));
+            catalogue.heap.load(catalogue.rows, firstRows[k]);
             play.run(program);
             return true;
         }
 
         int partOf(int row) {
-            return row >= 0 && row < looks.count ? partOfRow[row] : NONE;
+            if (row < 0 || row >= lookOfRow.length) {
+                return NONE;
+            }
+            int look = lookOfRow[row];
+            return look >= 0 && look < partOfLook.length ? partOfLook[look] : NONE;
         }
 
         int sizeOf(int k) {
-            return k >= 0 && k < count ? startBehind(k) - starts[k] : 0;
+            int size = 0;
+            for (int row = 0; row < catalogue.rows.count; row++) {
+                if (partOf(row) == k) {
+                    size++;
+                }
+            }
+            return size;
         }
 
         int keptIn(int k) {
-            int kept = 0;
-            if (k >= 0 && k < count) {
-                for (int i = starts[k]; i < startBehind(k); i++) {
-                    if (catalogue.keptNumber(rowAt(i)) != NONE) {
-                        kept++;
-                    }
+            int size = 0;
+            for (int i = 0; i < catalogue.keptCount; i++) {
+                if (partOf(catalogue.keptRow(i)) == k) {
+                    size++;
                 }
             }
-            return kept;
-        }
-
-        private int rowAt(int i) {
-            return i >= 0 && i < order.length ? order[i] : NONE;
-        }
-
-        private int startBehind(int k) {
-            return k + 1 < count ? starts[k + 1] : looks.count;
+            return size;
         }
 
         private void makeRoom(int n) {
@@ -1161,28 +1178,20 @@ public final class LazyHeaps {
                 int size = sizeFor(n);
                 order = new int[size];
                 spare = new int[size];
-                starts = new int[size];
-                partOfRow = new int[size];
+                lookOfRow = new int[size];
+                partOfLook = new int[size];
+                firstRows = new int[size];
             }
         }
 
-        /** By each place, the last first: each pass keeps the order of the ones before it. */
-        private void sort(int longest) {
-            for (int place = longest - 1; place >= 0; place--) {
-                Arrays.fill(buckets, 0);
-                for (int row = 0; row < looks.count; row++) {
-                    buckets[looks.codeAt(row, place) + 1]++;
-                }
-                for (int code = 1; code < buckets.length; code++) {
-                    buckets[code] += buckets[code - 1];
-                }
-                for (int i = 0; i < looks.count && i < order.length; i++) {
-                    int code = looks.codeAt(order[i], place);
-                    int to = buckets[code];
-                    if (to < spare.length) {
-                        spare[to] = order[i];
-                        buckets[code] = to + 1;
-                    }
+        private void sort() {
+            int many = Math.min(looks.count, order.length);
+            for (int i = 0; i < many; i++) {
+                order[i] = i;
+            }
+            for (int width = 1; width < many; width *= 2) {
+                for (int from = 0; from < many; from += 2 * width) {
+                    merge(from, Math.min(from + width, many), Math.min(from + 2 * width, many));
                 }
                 int[] sorted = spare;
                 spare = order;
@@ -1190,16 +1199,38 @@ public final class LazyHeaps {
             }
         }
 
-        private void part() {
+        private void merge(int from, int middle, int behind) {
+            int left = from;
+            int right = middle;
+            for (int to = from; to < behind && to < spare.length; to++) {
+                boolean rightOne = left >= middle
+                        || (right < behind && looks.compare(order[right], order[left]) < 0);
+                if (rightOne) {
+                    spare[to] = order[right];
+                    right++;
+                } else {
+                    spare[to] = order[left];
+                    left++;
+                }
+            }
+        }
+
+        private void nameParts() {
             count = 0;
-            for (int i = 0; i < looks.count; i++) {
-                int row = rowAt(i);
-                if ((i == 0 || !looks.areSame(rowAt(i - 1), row)) && count < starts.length) {
-                    starts[count] = i;
+            for (int i = 0; i < looks.count && i < order.length; i++) {
+                int look = order[i];
+                if (i == 0 || looks.compare(order[i - 1], look) != 0) {
                     count++;
                 }
-                if (row >= 0 && row < partOfRow.length) {
-                    partOfRow[row] = count - 1;
+                if (look >= 0 && look < partOfLook.length) {
+                    partOfLook[look] = count - 1;
+                }
+            }
+            // from behind, so that the first row of each end is the one that stays
+            for (int row = catalogue.rows.count - 1; row >= 0; row--) {
+                int part = partOf(row);
+                if (part >= 0 && part < firstRows.length) {
+                    firstRows[part] = row;
                 }
             }
         }

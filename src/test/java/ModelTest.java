@@ -148,6 +148,61 @@ public final class ModelTest {
         }
     }
 
+    /** Rows of up to 22 choices and looks of up to 17: the longest that 4000 rows leave room for. */
+    private void longShape() {
+        int[][] fields = {{2, 0, 0}, {2, 0, 3}, {2, 0, 2}, {2, 0, 1}, {3, 0, 1}};
+        for (int k = 0; k < 4; k++) {
+            checks.due(run + "kind", heaps.kind(-1), model.kind(-1));
+        }
+        for (int[] f : fields) {
+            checks.due(run + "field", heaps.field(f[0], f[1], f[2]), model.field(f[0], f[1], f[2]));
+        }
+        checks.due(run + "input", heaps.input(2), model.input(2));
+        checks.due(run + "input", heaps.input(0), model.input(0));
+        checks.due(run + "bound", heaps.bound(5), model.bound(5));
+        checks.due(run + "step", heaps.step(2, 1, 0, 0, 0), model.step(2, 1, 0, 0, 0));
+        for (int n = 0; n < 15; n++) {
+            int f = new int[] {3, 0, 1, 2}[n % 4];
+            int to = f == 2 ? 0 : 3;
+            checks.due(run + "step", heaps.step(0, 0, f, to, 0), model.step(0, 0, f, to, 0));
+        }
+    }
+
+    private void askLongRow(int i) {
+        checks.due(run + "empty", heaps.empty(), model.empty());
+        for (int k = 0; k < 23; k++) {
+            int c = model.choice(i, k);
+            checks.due(run + "choice(" + i + ", " + k + ")", heaps.choice(i, k), c);
+            if (c != Model.NONE) {
+                checks.due(run + "put", heaps.put(c), model.put(c));
+            }
+        }
+        checks.due(run + "rank() of " + i, heaps.rank(), i);
+        int k = model.endOf(i);
+        checks.due(run + "endOf(" + i + ")", heaps.endOf(i), k);
+        for (int place = 0; place < 18; place++) {
+            checks.due(run + "look(" + k + ", " + place + ")",
+                    heaps.look(k, place), model.look(k, place));
+        }
+        for (int what = 0; what < 5; what++) {
+            checks.due(run + "end(" + k + ", " + what + ")",
+                    heaps.end(k, what), model.end(k, what));
+        }
+    }
+
+    private static void longRows(Checks checks) {
+        for (int part = 0; part < 60; part++) {
+            ModelTest test = new ModelTest(part, checks);
+            test.longShape();
+            int rows = test.model.kept();
+            checks.due("long rows", test.heaps.kept(), rows);
+            checks.due("long ends", test.heaps.ends(), test.model.ends());
+            for (int n = 0; n < 5; n++) {
+                test.askLongRow((part * 5 + n) * (rows - 1) / 299);
+            }
+        }
+    }
+
     private void changeShape() {
         int turn = random.nextInt(20);
         if (turn < 3) {
@@ -186,6 +241,7 @@ public final class ModelTest {
 
     public static void main(String[] args) {
         Checks checks = new Checks();
+        longRows(checks);
         int runs = args.length > 0 ? Integer.parseInt(args[0]) : RUNS;
         for (int seed = 0; seed < runs; seed++) {
             ModelTest test = new ModelTest(seed, checks);
