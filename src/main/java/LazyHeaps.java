@@ -75,8 +75,7 @@ public final class LazyHeaps {
         if (above != NONE && !shape.isKind(above)) {
             return UNKNOWN;
         }
-        forgetRows();
-        return shape.addKind(above);
+        return afterShape(shape.addKind(above));
     }
 
     public int field(int kind, int sort, int of) {
@@ -89,16 +88,14 @@ public final class LazyHeaps {
         if (shape.isSuper(kind)) {
             return STATE;
         }
-        forgetRows();
-        return shape.addField(kind, sort, of);
+        return afterShape(shape.addField(kind, sort, of));
     }
 
     public int input(int kind) {
         if (!shape.isKind(kind)) {
             return UNKNOWN;
         }
-        forgetRows();
-        return shape.addInput(kind);
+        return afterShape(shape.addInput(kind));
     }
 
     public int bound(int n) {
@@ -223,8 +220,11 @@ public final class LazyHeaps {
         if (op != READ && (m < 0 || m > MOST_STEPS)) {
             return OUTSIDE;
         }
-        parts.forget();
-        return program.add(new Step(op, v, f, n, m));
+        int number = program.add(new Step(op, v, f, n, m));
+        if (number != ROOM) {
+            parts.forget();
+        }
+        return number;
     }
 
     public int erase() {
@@ -277,6 +277,14 @@ public final class LazyHeaps {
             return UNKNOWN;
         }
         return parts.partOf(catalogue.keptRow(i));
+    }
+
+    /** The rows are other ones when the shape has changed, but not when it refused to. */
+    private int afterShape(int number) {
+        if (number != ROOM) {
+            forgetRows();
+        }
+        return number;
     }
 
     private void forgetRows() {

@@ -71,6 +71,11 @@ public final class FaceTest {
             }
         }
         checks.holds("the constants are " + constants, constants.equals(CONSTANTS));
+        checks.due("NONE", LazyHeaps.NONE, -1);
+        checks.due("UNKNOWN", LazyHeaps.UNKNOWN, -101);
+        checks.due("OUTSIDE", LazyHeaps.OUTSIDE, -102);
+        checks.due("STATE", LazyHeaps.STATE, -103);
+        checks.due("ROOM", LazyHeaps.ROOM, -104);
 
         Constructor<?>[] constructors = face.getDeclaredConstructors();
         checks.due("constructors", constructors.length, 1);

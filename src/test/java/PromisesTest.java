@@ -1,129 +1,7 @@
 /** For each promise of the document answers that were found by hand from its words. */
-public final class PromisesTest {
-    private static final int NONE = -1;
-    private static final int UNKNOWN = -101;
-    private static final int OUTSIDE = -102;
-    private static final int STATE = -103;
-    private static final int ROOM = -104;
-    private static final int LEAST = Integer.MIN_VALUE;
-    private static final int MOST = Integer.MAX_VALUE;
-
-    private final Checks checks = new Checks();
-    private LazyHeaps x = new LazyHeaps();
-    private String promise = "";
-    private int call = 0;
-
+public final class PromisesTest extends Bench {
     private void promise(int number, String name) {
-        promise = "promise " + number + ", " + name;
-        call = 0;
-        x = new LazyHeaps();
-    }
-
-    private void anew() {
-        x = new LazyHeaps();
-    }
-
-    private void due(int want, int got) {
-        call++;
-        checks.due(promise + ", answer " + call, got, want);
-    }
-
-    private void dueRow(int i, int... choices) {
-        for (int k = 0; k < choices.length; k++) {
-            due(choices[k], x.choice(i, k));
-        }
-        due(NONE, x.choice(i, choices.length));
-    }
-
-    private void dueLook(int k, int... choices) {
-        due(choices.length, x.end(k, 1));
-        for (int i = 0; i < choices.length; i++) {
-            due(choices[i], x.look(k, i));
-        }
-        due(NONE, x.look(k, choices.length));
-    }
-
-    private void dueEnd(int k, int outcome, int all, int kept, int done) {
-        due(outcome, x.end(k, 0));
-        due(all, x.end(k, 2));
-        due(kept, x.end(k, 3));
-        due(done, x.end(k, 4));
-    }
-
-    private void puts(int... choices) {
-        x.empty();
-        for (int c : choices) {
-            x.put(c);
-        }
-    }
-
-    /** One kind with a REF to itself, one input: with bound 2 there are six rows. */
-    private void chain(int bound) {
-        anew();
-        x.kind(NONE);
-        x.field(0, 0, 0);
-        x.input(0);
-        x.bound(bound);
-    }
-
-    /** As chain, and a NUMBER 0 .. 1. */
-    private void numberedChain(int bound) {
-        chain(bound);
-        x.field(0, 1, 1);
-    }
-
-    /** Kind 0 with a REF to itself, kind 1 under it, one input of kind 0. */
-    private void family(int bound) {
-        anew();
-        x.kind(NONE);
-        x.field(0, 0, 0);
-        x.kind(0);
-        x.input(0);
-        x.bound(bound);
-    }
-
-    /** One kind without fields, two inputs: with bound 2 there are five rows. */
-    private void pair(int bound) {
-        anew();
-        x.kind(NONE);
-        x.input(0);
-        x.input(0);
-        x.bound(bound);
-    }
-
-    /** 40 heaps from input 0 with each of the 100 from input 1: just as many rows as can be told. */
-    private void fourThousand() {
-        anew();
-        x.kind(NONE);
-        x.field(0, 1, 2);
-        x.kind(0);
-        x.field(1, 1, 2);
-        x.field(1, 1, 3);
-        x.kind(NONE);
-        x.field(2, 1, 2);
-        x.kind(2);
-        x.field(3, 1, 3);
-        x.field(3, 1, 3);
-        x.field(3, 1, 1);
-        x.input(0);
-        x.input(2);
-    }
-
-    /** 68 * 58 rows, and 57 where both inputs tell one object: one row too many. */
-    private void oneTooMany() {
-        anew();
-        x.kind(NONE);
-        x.kind(0);
-        x.field(1, 1, 2);
-        x.kind(1);
-        x.field(2, 1, 2);
-        x.field(2, 1, 2);
-        x.field(2, 1, 1);
-        x.kind(0);
-        x.field(3, 1, 2);
-        x.field(3, 1, 2);
-        x.input(0);
-        x.input(1);
+        on("promise " + number + ", " + name);
     }
 
     private void newObject() {
@@ -315,12 +193,6 @@ public final class PromisesTest {
         due(OUTSIDE, x.rule(5, 0, 1, 1));
         due(UNKNOWN, x.rule(5, 9, 1, 1));
         due(6, x.about(3));
-    }
-
-    private int keptBy(int sort, int kind, int f, int g) {
-        x.clear();
-        x.rule(sort, kind, f, g);
-        return x.kept();
     }
 
     private void ruleSorts() {
@@ -670,12 +542,6 @@ public final class PromisesTest {
         due(ROOM, x.rank());
         x.put(99);
         due(ROOM, x.rank());
-    }
-
-    private void dueRank(int want, int... choices) {
-        puts(choices);
-        due(want, x.rank());
-        due(choices.length, x.about(5));
     }
 
     private void step() {
