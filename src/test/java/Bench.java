@@ -59,6 +59,19 @@ abstract class Bench {
         due(choices.length, x.about(5));
     }
 
+    /** Of every call that asks for rows. */
+    final void dueRoomForRows() {
+        due(ROOM, x.many());
+        due(ROOM, x.kept());
+        due(ROOM, x.choice(0, 0));
+        due(ROOM, x.object(0, 0, 0));
+        due(ROOM, x.rank());
+        due(ROOM, x.ends());
+        due(ROOM, x.end(0, 0));
+        due(ROOM, x.look(0, 0));
+        due(ROOM, x.endOf(0));
+    }
+
     final void puts(int... choices) {
         x.empty();
         for (int c : choices) {

@@ -141,15 +141,7 @@ public final class RefusalsTest extends Bench {
         x.put(10);
         List<Integer> before = seen();
         x.bound(2);
-        due(ROOM, x.many());
-        due(ROOM, x.kept());
-        due(ROOM, x.choice(0, 0));
-        due(ROOM, x.object(0, 0, 0));
-        due(ROOM, x.rank());
-        due(ROOM, x.ends());
-        due(ROOM, x.end(0, 0));
-        due(ROOM, x.look(0, 0));
-        due(ROOM, x.endOf(0));
+        dueRoomForRows();
         due(2, x.bound(1));
         due(1, seen().equals(before) ? 1 : 0);
     }

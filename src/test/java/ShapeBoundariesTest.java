@@ -363,15 +363,7 @@ public final class ShapeBoundariesTest extends Bench {
     private void moreThanFourThousandAreRoom() {
         on("part 2: if these are more than 4000, whatever asks for them is ROOM");
         oneTooMany();
-        due(ROOM, x.many());
-        due(ROOM, x.kept());
-        due(ROOM, x.choice(0, 0));
-        due(ROOM, x.object(0, 0, 0));
-        due(ROOM, x.rank());
-        due(ROOM, x.ends());
-        due(ROOM, x.end(0, 0));
-        due(ROOM, x.look(0, 0));
-        due(ROOM, x.endOf(0));
+        dueRoomForRows();
         on("part 2: far more than 4000");
         farTooMany();
         due(ROOM, x.many());
